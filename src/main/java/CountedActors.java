@@ -44,6 +44,9 @@ public final class CountedActors {
 
     private static final int RAISED_BY = 8;
 
+    /** The count from which an actor that is not the owner can send without a raise. */
+    private static final int ENOUGH_TO_SEND = 2;
+
     private static final int ACCEPTED = 0;
     private static final int NOT_OPEN = 1;
     private static final int FULL = 2;
@@ -216,6 +219,9 @@ public final class CountedActors {
             1 << TAG
         };
 
+        /** A set for each writable capability. */
+        private static final int[] SAFE = {SENDABLE, SENDABLE | 1 << TRN, ALL};
+
         static boolean isOne(int c) {
             return c >= 0 && c < CAPABILITIES;
         }
@@ -257,10 +263,7 @@ public final class CountedActors {
         }
 
         static boolean isSafe(int source, int into) {
-            if (into == REF) {
-                return true;
-            }
-            return isSendable(source) || into == TRN && source == TRN;
+            return isIn(source, SAFE[into]);
         }
     }
 
@@ -411,11 +414,10 @@ public final class CountedActors {
                 return NAMES_NOTHING;
             }
             int refusal = draft.refusal(s);
-            if (refusal == ACCEPTED && s.op == SEND
-                    && !Capability.fits(draft.capabilityOf(s.z), parameterOf(s.y))) {
-                return NOT_FITTING;
+            if (refusal != ACCEPTED || s.op != SEND) {
+                return refusal;
             }
-            return refusal;
+            return Capability.fits(draft.capabilityOf(s.z), parameterOf(s.y)) ? ACCEPTED : NOT_FITTING;
         }
 
         boolean finish() {
@@ -1009,25 +1011,21 @@ public final class CountedActors {
         private int raisesNeeded(int a) {
             int needed = 0;
             for (int p = 0; p < OBJECTS; p++) {
-                if (walk.hasMet(p) && needsRaise(a, p)) {
+                if (walk.hasMet(p) && heap.ownerOf(p) != a && heap.countOf(a, p) < ENOUGH_TO_SEND) {
                     needed++;
                 }
             }
             return needed;
         }
 
-        private boolean needsRaise(int a, int p) {
-            return heap.ownerOf(p) != a && heap.countOf(a, p) < 2;
-        }
-
         private void countSent(int a, int p) {
             if (heap.ownerOf(p) == a) {
                 heap.growCount(a, p, 1);
-            } else if (needsRaise(a, p)) {
+            } else if (heap.countOf(a, p) >= ENOUGH_TO_SEND) {
+                heap.growCount(a, p, -1);
+            } else {
                 mail.put(RAISE, heap.ownerOf(p), p, RAISED_BY);
                 heap.growCount(a, p, RAISED_BY - 1);
-            } else {
-                heap.growCount(a, p, -1);
             }
         }
 

@@ -20,6 +20,7 @@ public final class HoldsTest {
         theSameLocalTwice();
         putAndOthersLeaveThemAlone();
         blocks();
+        blocksAndEachLocal();
         CHECK.finish();
     }
 
@@ -134,5 +135,20 @@ public final class HoldsTest {
         due("hidden though it became something in a block before", m, -1, -2, 0, 3, -1, -1);
         Script.addAll(m, Script.shut(0, 2));
         due("not emptied for what it became before", m, 0, 2, -1, 3, -1, -1);
+    }
+
+    private static void blocksAndEachLocal() {
+        for (int x = 0; x < 6; x++) {
+            int other = (x + 1) % 6;
+            CountedActors m = Script.writing(5, Script.make(x, 2), Script.make(other, 0), Script.open());
+            CHECK.due("holds(" + x + ") in a block", m.holds(x), -2);
+            Script.addAll(m, Script.shut(other, other));
+            CHECK.due("holds(" + x + ") behind it", m.holds(x), 2);
+            CHECK.due("holds(" + other + ") behind it", m.holds(other), 0);
+            Script.addAll(m, Script.open(), Script.make(x, 2));
+            CHECK.due("holds(" + x + ") once it became something", m.holds(x), 2);
+            Script.addAll(m, Script.shut(other, other));
+            CHECK.due("holds(" + x + ") behind that block", m.holds(x), -1);
+        }
     }
 }

@@ -89,7 +89,7 @@ public final class LookTest {
         CHECK.due("inner(0, 2) of a freed one", m.inner(0, 2), -1);
     }
 
-    /** Each actor of four fills its six fields, and one field of each object, one after another. */
+    /** Each of four actors fills four fields; each new object holds, by TAG, the actor's one before. */
     private static void allFieldsOfAll() {
         CountedActors m = new CountedActors(4);
         int[] fills = new int[6];
@@ -98,7 +98,6 @@ public final class LookTest {
                 Script.copy(3, 1), Script.put(6, 5, 3), Script.swap(4, 6, k, 1));
         }
         int next = 0;
-        int before = -1;
         for (int k = 0; k < 4; k++) {
             for (int a = 0; a < 4; a++) {
                 Script.call(m, a, fills[k]);
@@ -108,8 +107,7 @@ public final class LookTest {
             for (int a = 0; a < 4; a++) {
                 CHECK.due("field(" + a + ", " + k + ")", m.field(a, k), next);
                 CHECK.due("owner(" + next + ")", m.owner(next), a);
-                before = k == 0 ? -1 : next - 4;
-                CHECK.due("inner(" + next + ", 5)", m.inner(next, 5), before);
+                CHECK.due("inner(" + next + ", 5)", m.inner(next, 5), k == 0 ? -1 : next - 4);
                 next++;
             }
         }

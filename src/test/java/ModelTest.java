@@ -1,3 +1,6 @@
+import java.util.ArrayList;
+import java.util.List;
+
 /**
  * All promises at once: long runs of calls on a machine and on the model, answer by answer. The
  * runs are the same each time. None goes beyond the 512 calls for which the document speaks.
@@ -18,6 +21,8 @@ public final class ModelTest {
     private Model model;
     private String run;
     private int left;
+    /** Locals of the open behaviour that are likely to hold an object. */
+    private final List<Integer> solid = new ArrayList<>();
 
     public static void main(String[] args) {
         ModelTest test = new ModelTest();
@@ -73,9 +78,11 @@ public final class ModelTest {
     private void write() {
         int k = new int[] {0, 3, 5, 0, 3, 5, any(8) - 1}[any(7)];
         due("begin(" + k + ")", machine.begin(k), model.begin(k));
-        int statements = any(14);
+        solid.clear();
+        opening();
+        int statements = any(12);
         for (int i = 0; i < statements; i++) {
-            statement();
+            add(statement());
             int x = number(6);
             if (any(4) == 0) {
                 due("holds(" + x + ")", machine.holds(x), model.holds(x));
@@ -87,7 +94,7 @@ public final class ModelTest {
         boolean ended = model.end();
         due("end()", machine.end(), ended);
         if (!ended && any(2) == 0) {
-            statement();
+            add(statement());
             due("end()", machine.end(), model.end());
         }
         if (any(6) == 0) {
@@ -95,24 +102,62 @@ public final class ModelTest {
         }
     }
 
-    private void statement() {
+    /** Begins most behaviours so that objects are made, stored and passed on, and not NONE alone. */
+    private void opening() {
+        switch (any(4)) {
+            case 0 -> {
+                for (int x = 1; x < 4; x++) {
+                    add(new int[] {0, x, 0, any(6), 0});
+                }
+            }
+            case 1 -> add(new int[] {5, 1, 6, any(6), 0});
+            case 2 -> add(any(2) == 0 ? new int[] {3, 1, 6, any(6), 0} : new int[] {5, 1, 6, any(6), 0});
+            default -> {
+            }
+        }
+    }
+
+    /** A statement, mostly one that will be accepted. */
+    private int[] statement() {
         int[] s = null;
         int tries = any(5) == 0 ? 1 : 40;
         for (int i = 0; i < tries; i++) {
-            s = new int[] {number(11), number(6), number(7), number(6), number(6)};
+            s = new int[] {number(11), number(6), local(), number(6), local()};
             if (any(20) != 0) {
                 s[0] = OPS[any(OPS.length)];
             }
             if (s[0] == 8 && any(3) != 0) {
                 s[1] = any(4);
                 s[2] = any(6);
+            } else if (s[0] >= 3 && s[0] <= 5 && any(3) == 0) {
+                s[2] = 6;
             }
             if (model.refusal(s[0], s[1], s[2], s[3], s[4]) == 0) {
                 break;
             }
         }
+        return s;
+    }
+
+    /** A local, mostly one that will hold an object when the behaviour runs. */
+    private int local() {
+        return solid.isEmpty() || any(3) == 0 ? number(7) : solid.get(any(solid.size()));
+    }
+
+    private void add(int[] s) {
         String call = "add(" + s[0] + ", " + s[1] + ", " + s[2] + ", " + s[3] + ", " + s[4] + ")";
-        due(call, machine.add(s[0], s[1], s[2], s[3], s[4]), model.add(s[0], s[1], s[2], s[3], s[4]));
+        int want = model.add(s[0], s[1], s[2], s[3], s[4]);
+        due(call, machine.add(s[0], s[1], s[2], s[3], s[4]), want);
+        if (want != 0) {
+            return;
+        }
+        boolean isSolid = s[0] == 0 || (s[0] <= 2 || s[0] == 10) && solid.contains(s[2]);
+        if (s[0] <= 3 || s[0] == 5 || s[0] == 10) {
+            solid.remove((Integer) s[1]);
+            if (isSolid) {
+                solid.add(s[1]);
+            }
+        }
     }
 
     private void act() {

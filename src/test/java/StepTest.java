@@ -6,6 +6,7 @@ public final class StepTest {
         wrongInputs();
         inOrder();
         newObjects();
+        newObjectsWithUsedNumbers();
         copyAndMove();
         getAndPut();
         swap();
@@ -81,6 +82,22 @@ public final class StepTest {
         }
         for (int a = 0; a < 3; a++) {
             CHECK.due("count(" + a + ", 0)", m.count(a, 0), 0);
+        }
+    }
+
+    /** Object 0 is freed while its field still holds object 1, which is kept by TAG. */
+    private static void newObjectsWithUsedNumbers() {
+        for (int k = 0; k < 6; k++) {
+            CountedActors m = new CountedActors(1);
+            Script.call(m, 0, Script.behaviour(m, 5, Script.make(1, 2), Script.make(2, 0), Script.copy(3, 2),
+                Script.put(6, 5, 3), Script.swap(4, 1, k, 2), Script.grow(1, 8)));
+            CHECK.due("inner(0, " + k + ")", m.inner(0, k), 1);
+            CHECK.due("collect(0)", m.collect(0), 1);
+            CHECK.due("owner(1)", m.owner(1), 0);
+            Script.call(m, 0, Script.behaviour(m, 5, Script.make(1, 2)));
+            CHECK.due("owner(0), used again", m.owner(0), 0);
+            CHECK.due("inner(0, " + k + "), used again", m.inner(0, k), -1);
+            CHECK.due("cell(0), used again", m.cell(0), 0);
         }
     }
 
