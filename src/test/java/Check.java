@@ -3,16 +3,26 @@ final class Check {
     private final String test;
     private int asked = 0;
     private int wrong = 0;
+    private String about = "";
 
     Check(String test) {
         this.test = test;
+    }
+
+    /** What the answers from here on are about. */
+    void about(String what) {
+        about = " " + what;
+    }
+
+    int asked() {
+        return asked;
     }
 
     void due(String what, int got, int want) {
         asked++;
         if (got != want) {
             wrong++;
-            System.out.println(test + ": " + what + " answered " + got + ", due is " + want);
+            System.out.println(test + about + ": " + what + " answered " + got + ", due is " + want);
         }
     }
 

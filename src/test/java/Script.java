@@ -1,5 +1,5 @@
-/** Short ways to write behaviours and to run them. */
-final class Script {
+/** Short ways to write behaviours and to run them; a test may extend it to have the names at hand. */
+abstract class Script {
     static final int ISO = 0;
     static final int TRN = 1;
     static final int REF = 2;
@@ -28,7 +28,8 @@ final class Script {
     /** Stands where a statement uses nothing, since what it does not use is not looked at. */
     private static final int UNUSED = -77;
 
-    private Script() {
+    static int[] numbers(int... numbers) {
+        return numbers;
     }
 
     static int[] make(int x, int f) {
@@ -112,5 +113,33 @@ final class Script {
         if (m.waiting(a) != 0 || !m.post(a, b) || m.step(a) != CALL) {
             throw new IllegalStateException("not called: " + b + " by " + a);
         }
+    }
+
+    /** A machine of one actor that has run one behaviour with these statements, its parameter NONE as a TAG. */
+    static CountedActors ran(int[]... statements) {
+        CountedActors m = new CountedActors(1);
+        call(m, 0, behaviour(m, TAG, statements));
+        return m;
+    }
+
+    static void postTimes(CountedActors m, int times, int a, int b) {
+        for (int i = 0; i < times; i++) {
+            if (!m.post(a, b)) {
+                throw new IllegalStateException("not posted: " + b + " to " + a);
+            }
+        }
+    }
+
+    static void stepTimes(CountedActors m, int times, int a) {
+        for (int i = 0; i < times; i++) {
+            if (m.step(a) < 0) {
+                throw new IllegalStateException("nothing to take for " + a);
+            }
+        }
+    }
+
+    /** A statement as a call, for what is printed. */
+    static String named(int[] s) {
+        return "add(" + s[0] + ", " + s[1] + ", " + s[2] + ", " + s[3] + ", " + s[4] + ")";
     }
 }
