@@ -233,7 +233,7 @@ public final class EdgeLookTest extends Script {
         CHECK.due("shown(-1): NONE is not shown", m.shown(-1), 3);
     }
 
-    /** Five calls to write, 504 to run, three more: these must be right. Behind them none may break off. */
+    /** Five calls to write, 504 to run, and three more, which must be right still. */
     @Sentence("An object is used for at most 512 calls after it has been made; what later calls answer is free.")
     private static void fiveHundredAndTwelveCalls() {
         CountedActors m = new CountedActors(4);
@@ -250,14 +250,5 @@ public final class EdgeLookTest extends Script {
         CHECK.due("call 510, shown(-1)", m.shown(-1), 168);
         CHECK.due("call 511, shown(15)", m.shown(15), 7);
         CHECK.due("call 512, post(3, 0)", m.post(3, 0), true);
-        for (int i = 0; i < 5000; i++) {
-            m.begin(i % 6);
-            m.add(i % 11, i % 6, i % 7, i % 6, i % 6);
-            m.end();
-            m.post(i % 4, i % 6);
-            m.step(i % 3);
-            m.rights(i % 4, i % 16);
-            m.collect(i % 5);
-        }
     }
 }
